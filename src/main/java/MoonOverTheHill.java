@@ -168,7 +168,7 @@ public final class MoonOverTheHill {
         if (shelf.isRow()) {
             return refuse(OTHER);
         }
-        return moon.fits(new Question(shelf.kind(), 0, 0, 0), shelf.day()) ? 1 : 0;
+        return moon.fits(new Question(shelf.kind()), shelf.day()) ? 1 : 0;
     }
 
     // ---- how it all stands
@@ -334,7 +334,7 @@ public final class MoonOverTheHill {
         if (!isDay(day) || !isKind(kind)) {
             return refuse(BAD);
         }
-        return moon.fits(new Question(kind, 0, 0, 0), day) ? 1 : 0;
+        return moon.fits(new Question(kind), day) ? 1 : 0;
     }
 
     public int shines(int day, int f, int t) {
@@ -357,14 +357,14 @@ public final class MoonOverTheHill {
         if (!isDay(day) || !isKind(kind)) {
             return refuse(BAD);
         }
-        return moon.pick(day, MOST_DAYS, 0, new Question(kind, 0, 0, 0));
+        return moon.pick(day, MOST_DAYS, 0, new Question(kind));
     }
 
     public int many(int day, int n, int kind) {
         if (!areDays(day, n) || !isKind(kind)) {
             return refuse(BAD);
         }
-        return moon.pick(day, n, NONE, new Question(kind, 0, 0, 0));
+        return moon.pick(day, n, NONE, new Question(kind));
     }
 
     public int between(int day, int n, int a, int b, int i) {
@@ -464,7 +464,7 @@ public final class MoonOverTheHill {
     }
 
     public int eclipse(int day) {
-        return isDay(day) ? moon.pick(day, MOST_DAYS, 0, new Question(ECLIPSED, 0, 0, 0)) : refuse(BAD);
+        return isDay(day) ? moon.pick(day, MOST_DAYS, 0, new Question(ECLIPSED)) : refuse(BAD);
     }
 
     // ---- pictures and witnesses
@@ -980,20 +980,24 @@ public final class MoonOverTheHill {
         final int c;
         final Shelf picture;
 
-        Question(int about, int a, int b, int c) {
+        private Question(int about, int a, int b, int c, Shelf picture) {
             this.about = about;
             this.a = a;
             this.b = b;
             this.c = c;
-            this.picture = null;
+            this.picture = picture;
+        }
+
+        Question(int about) {
+            this(about, 0, 0, 0, null);
+        }
+
+        Question(int about, int a, int b, int c) {
+            this(about, a, b, c, null);
         }
 
         Question(Shelf picture) {
-            this.about = PICTURED;
-            this.a = 0;
-            this.b = 0;
-            this.c = 0;
-            this.picture = picture;
+            this(PICTURED, 0, 0, 0, picture);
         }
     }
 
