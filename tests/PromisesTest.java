@@ -419,6 +419,7 @@ public final class PromisesTest {
         due(3, skyOf("off 9999;node 9999;swing 9999"));
         due(3, skyOf("off 0;node 0;swing 0"));
         due(1, skyOf("cloud 9999"));
+        due(1, skyOf("cloud 0"));
         due(2, skyOf("notch 0 0 0;notch 179 179 30"));
         due(2, skyOf("stone 0;stone 179"));
         refused(0, 0, 0, 1, 0);
@@ -450,7 +451,7 @@ public final class PromisesTest {
             "Off 5", "off -5", "off 12345", "off 00012", "offx 5", "of 5", "5", "off x", "off 5!", "off;5",
             "notch 180 180 1", "notch 1 180 1", "notch 9 8 1", "notch 9 9 31", "notch 9 9", "notch 9", "notch",
             "notch 1 2 3 4", "notch 1;2 3", "stone 180", "stone", "stone 1 stone 2", "cloud 10000", "cloud",
-            "cloud 2", "cloud 5;cloud 5", "clouds 5", "off\t5", "off 5\n", "stone 5, stone 6", "swing 1a",
+            "cloud 2", "cloud 5;cloud 5", "clouds 5", "offa 5", "offz 5", "xff 5", "off\t5", "off 5\n", "stone 5, stone 6", "swing 1a",
             "off 7;stone 5;cloud 3;notch 1 2 3;node 9;swing x", "\u0000", "off 5\u00ff", "off5off6", "no de 5"
         };
         int[] places = {
@@ -458,7 +459,7 @@ public final class PromisesTest {
             0, 4, 4, 4, 0, 0, 0, 4, 5, 3,
             6, 8, 8, 10, 9, 7, 5,
             12, 7, 6, 5, 8, 6, 5,
-            6, 14, 0, 3, 5, 7, 7,
+            6, 14, 0, 0, 0, 0, 3, 5, 7, 7,
             47, 0, 5, 4, 0
         };
         for (int i = 0; i < texts.length; i++) {
@@ -527,6 +528,10 @@ public final class PromisesTest {
         x.notch(15, 30, 9);
         x.notch(18, 19, 2);
         x.notch(170, 179, 4);
+        x.notch(0, 1, 6);
+        due(6, x.line(0));
+        due(6, x.line(1));
+        due(0, x.line(2));
         due(0, x.line(9));
         due(5, x.line(10));
         due(5, x.line(14));
@@ -559,16 +564,16 @@ public final class PromisesTest {
         due(1230, x.moon(9999, 6));
         due(36, x.moon(9998, 7));
         // LIT about full and about new; cut, not rounded.
-        int[] offs = {1475, 1476, 1477, 2952, 2953, 14, 15, 9999};
-        int[] lits = {99, 100, 99, 0, 0, 0, 1, 77};
-        int[] ages = {1475, 1476, 1477, 2952, 0, 14, 15, 1140};
+        int[] offs = {1475, 1476, 1477, 1490, 2952, 2953, 14, 15, 9999};
+        int[] lits = {99, 100, 99, 99, 0, 0, 0, 1, 77};
+        int[] ages = {1475, 1476, 1477, 1490, 2952, 0, 14, 15, 1140};
         for (int i = 0; i < offs.length; i++) {
             x.ask(0, offs[i]);
             due(ages[i], x.moon(0, 0));
             due(lits[i], x.moon(0, 1));
         }
-        int[] swings = {3395, 3396, 3397, 6792, 6793, 340, 339, 9999};
-        int[] outs = {27, 28, 27, 18, 18, 19, 18, 27};
+        int[] swings = {3395, 3396, 3397, 3735, 3736, 6792, 6793, 340, 339, 7133, 7132, 9999};
+        int[] outs = {27, 28, 27, 27, 26, 18, 18, 19, 18, 19, 18, 27};
         for (int i = 0; i < swings.length; i++) {
             x.ask(2, swings[i]);
             due(outs[i], x.moon(0, 2));
@@ -590,6 +595,10 @@ public final class PromisesTest {
         x.ask(2, 3396);
         due(28, x.slant(0));
         due(34, x.moon(0, 4));
+        x.ask(1, 2610);
+        due(-5, x.slant(0));
+        x.ask(1, 2611);
+        due(-4, x.slant(0));
         x.ask(1, 2049);
         due(-28, x.slant(0));
         due(146, x.moon(0, 4));
@@ -606,6 +615,9 @@ public final class PromisesTest {
         // DAY 0 comes up at WAY 90, at 360 on flat land.
         x.notch(90, 94, 4);
         figures(0, 0, 0, 18, 360, 90, 20, 380, 22, 95);
+        // At 20 it would be 4 high, but it's at 95 then.
+        x.notch(95, 95, 5);
+        due(24, x.moon(0, 5));
         x.clear(0);
         x.notch(90, 91, 1);
         due(5, x.moon(0, 5));
@@ -638,6 +650,11 @@ public final class PromisesTest {
         x.notch(90, 90, 3);
         due(0, x.behind(0));
         x.notch(91, 91, 2);
+        due(1, x.behind(0));
+        x.clear(0);
+        x.notch(90, 90, 1);
+        x.notch(91, 91, 1);
+        due(5, x.moon(0, 5));
         due(1, x.behind(0));
         x.clear(0);
         x.notch(90, 99, 1);
@@ -794,6 +811,9 @@ public final class PromisesTest {
         // LATER of DAYS 0 to 7: 42 40 43 40 39 43 43 58.
         due(4, x.alike(0));
         due(4, x.alike(4));
+        // DAY 20 is the eighth; DAY 21, with less, doesn't count.
+        due(20, x.alike(13));
+        due(13, x.alike(12));
         due(5, x.alike(5));
         due(9994, x.alike(9991));
         x.notch(0, 179, 30);
@@ -804,6 +824,7 @@ public final class PromisesTest {
         fresh(31);
         // SLANT of DAYS 0 to 7: 0 2 5 7 10 13 15 17; of both ends of the month -18 at most.
         due(0, x.farthest(0, 1));
+        due(1, x.farthest(0, 2));
         due(6, x.farthest(0, 7));
         due(7, x.farthest(0, 14));
         due(20, x.farthest(14, 8));
@@ -860,6 +881,13 @@ public final class PromisesTest {
         // Up to DAY 4 it isn't up in minutes 1200 to 1439 (or not lit): the first.
         due(0, x.brightest(0, 3));
         due(9999, x.brightest(9999, 1000));
+        // From 1199 or 1201 on, the other one would be the first.
+        x.ask(0, 248);
+        due(x.light(38, 1200, 1439), x.light(15, 1200, 1439));
+        due(15, x.brightest(15, 24));
+        x.ask(0, 250);
+        due(x.light(15, 1200, 1439) + 1, x.light(38, 1200, 1439));
+        due(38, x.brightest(15, 24));
         all(BAD, x.brightest(-1, 1), x.brightest(10000, 1), x.brightest(0, 0), x.brightest(0, 1001));
         refused(4, 0, 0, 0, 0);
     }
@@ -910,6 +938,8 @@ public final class PromisesTest {
         due(42, x.lates(0, 1, 1));
         due(42, x.lates(0, 1, 2));
         due(36, x.lates(9998, 1000, 2));
+        due(36, x.lates(9998, 1000, 0));
+        due(36, x.lates(9998, 2, 1));
         x.notch(90, 94, 4);
         due(22, x.lates(0, 2, 0));
         x.clear(0);
@@ -1050,6 +1080,11 @@ public final class PromisesTest {
         due(2, x.picture(0, 0, 0));
         x.set(0, 6, 500);
         due(3, x.picture(0, 3, 1));
+        x.ask(0, 2195);
+        // DAY 0 has been up for 10 minutes at minute 0.
+        rowOf(0, 2, 0, 100, 92, 92, 2, 2, 0, 1);
+        due(1, x.picture(0, 0, 0));
+        x.ask(0, 0);
         rowOf(1, 3, -1L << 40, 1L << 40, 0, 1L << 33, -5, 200, 500, 1000, 99);
         due(0, x.picture(1, 9999, 0));
         x.set(1, 6, 1300);
@@ -1131,6 +1166,28 @@ public final class PromisesTest {
         due(NOTHING, x.eager(6, 1));
         due(BAD, x.eager(3, 4));
         refused(12, 2, 2, 0, 0);
+
+        fresh(45);
+        rowOf(0, 2, 0);
+        x.told(0, 100);
+        due(0, x.court(0, 1));
+        due(0, x.eager(0, 1));
+        // Told once each: the first in the ROW.
+        rowOf(1, 2, 3, 0);
+        due(3, x.court(1, 2));
+        x.told(0, 99);
+        due(NONE, x.court(0, 1));
+        x.told(9999, 400);
+        x.set(0, 0, 9999);
+        due(9999, x.court(0, 1));
+        due(0, x.eager(0, 1));
+        x.told(9999, 401);
+        due(NONE, x.court(0, 1));
+        // The DAY ahead of DAY 0 would have AGE 200, but there is none.
+        x.told(0, 300);
+        x.set(0, 0, -1);
+        due(1, x.eager(0, 1));
+        refused(0, 0, 0, 0, 0);
     }
 
     private static void promises47To49() {
@@ -1178,6 +1235,7 @@ public final class PromisesTest {
         due(8, x.bone(0, 11, 0));
         due(4, x.bone(0, 11, 1));
         due(3, x.bone(0, 3, 1));
+        due(2, x.bone(0, 2, 1));
         // Sums of 3: 88 87 87 89 90 89 88 89 87.
         due(5, x.bone(0, 11, 2));
         due(1, x.bone(0, 3, 2));
@@ -1195,6 +1253,7 @@ public final class PromisesTest {
         due(2, x.bone(1, 5, 2));
         rowOf(5, 4, 1, 1, 1);
         due(0, x.bone(5, 3, 0));
+        due(0, x.bone(5, 3, 1));
         x.evening(2, 0, 0);
         refused(0, 0, 0, 0, 0);
         all(BAD, x.bone(-1, 1, 0), x.bone(8, 1, 0), x.bone(2, 0, 0), x.bone(2, 41, 0), x.bone(3, 1, -1),
@@ -1283,6 +1342,7 @@ public final class PromisesTest {
         due(-1000002, x.meant(0, 0, 0));
         x.stone(90);
         due(1000 - 5, x.meant(0, 1, 0));
+        due(1000 - 50, x.meant(0, 2, 2));
         x.stone(10);
         due(500 - 5, x.meant(0, 1, 0));
         x.stone(11);
@@ -1336,6 +1396,19 @@ public final class PromisesTest {
         x.seed(1);
         x.ask(3, 9);
         due(0, x.goes());
+        due(1, x.status(8));
+        // Up till 1079, and then till 1080.
+        x = new MoonOverTheHill();
+        x.ask(3, 0);
+        x.ask(0, 247);
+        due(480, x.moon(0, 6));
+        due(1, x.goes());
+        due(0, x.status(8));
+        x = new MoonOverTheHill();
+        x.ask(3, 0);
+        x.ask(0, 249);
+        due(481, x.moon(0, 6));
+        due(1, x.goes());
         due(1, x.status(8));
         refused(0, 0, 0, 0, 0);
 

@@ -1532,7 +1532,6 @@ public final class MoonOverTheHill {
 
         void putEvening(int kind, int onDay) {
             content = KINDS_FROM + kind;
-            size = 0;
             day = onDay;
         }
 
