@@ -423,9 +423,7 @@ public final class PromisesTest {
         due(2, skyOf("notch 0 0 0;notch 179 179 30"));
         due(2, skyOf("stone 0;stone 179"));
         refused(0, 0, 0, 1, 0);
-        int[] before = state();
         faults();
-        asBefore(before);
         skiesWithoutRoom();
         // The longest SKY: 250 bytes.
         fresh(17);
@@ -435,17 +433,18 @@ public final class PromisesTest {
         }
         longest.setLength(250);
         due(49, skyOf(longest.substring(0, 6 + 48 * 5 - 1)));
+        refused(0, 0, 0, 0, 0);
+        fresh(17);
         longest.setLength(0);
         while (longest.length() < 249) {
             longest.append(' ');
         }
         due(-20 - 249, skyOf(longest + "!"));
         due(-20 - 250, skyOf(longest + " "));
-        refused(2, 0, 0, 0, 0);
+        due(2, x.status(12));
     }
 
     private static void faults() {
-        int bad = x.status(12);
         String[] texts = {
             "", "   ", "off", "off ", "off 5;", "off 5 ; ", "off 5 off", "off 5 6", ";off 5", "off 5;;off 6",
             "Off 5", "off -5", "off 12345", "off 00012", "offx 5", "of 5", "5", "off x", "off 5!", "off;5",
@@ -463,14 +462,17 @@ public final class PromisesTest {
             47, 0, 5, 4, 0
         };
         for (int i = 0; i < texts.length; i++) {
+            fresh(17);
+            skyOf("off 7;node 600;swing 3000;notch 60 99 9;stone 70;cloud 2");
+            int[] before = state();
             int got = skyOf(texts[i]);
             if (got != -20 - places[i]) {
                 wrong++;
                 System.out.println("promise 17: '" + texts[i] + "' answered " + got + ", due is " + (-20 - places[i]));
             }
-            due(0, x.status(9));
+            asBefore(before);
+            refused(1, 0, 0, 0, 0);
         }
-        due(bad + texts.length, x.status(12));
     }
 
     private static void skiesWithoutRoom() {

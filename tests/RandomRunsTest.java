@@ -207,7 +207,7 @@ public final class RandomRunsTest {
         int n = random.nextInt(3) == 0 ? random.nextInt(12) : 8;
         boolean right = answersAlike("row", s, 1 + random.nextInt(3), n);
         int use = random.nextInt(3);
-        for (int i = 0; i < n && right; i++) {
+        for (int i = 0; i < n && right && calls.size() < CALLS; i++) {
             long v = use == 0 ? pictureElement(i) : use == 1 ? 28 + random.nextInt(4) : today + random.nextInt(12);
             right = answersAlike("set", s, i, v);
         }
@@ -233,7 +233,7 @@ public final class RandomRunsTest {
             spoil(tape);
         }
         boolean right = true;
-        for (int i = 0; i < tape.length() && right; i++) {
+        for (int i = 0; i < tape.length() && right && calls.size() < CALLS - 1; i++) {
             right = answersAlike("feed", (int) tape.charAt(i));
         }
         return right && answersAlike("sky");
