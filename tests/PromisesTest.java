@@ -423,6 +423,13 @@ public final class PromisesTest {
         due(2, skyOf("notch 0 0 0;notch 179 179 30"));
         due(2, skyOf("stone 0;stone 179"));
         refused(0, 0, 0, 1, 0);
+        // STONES and NOTCHES may be alike, as those of stone() and notch() may.
+        due(4, x.clear(0));
+        due(3, x.clear(1));
+        due(4, skyOf("stone 5;stone 5;notch 1 2 3;notch 1 2 3"));
+        due(2, x.status(0));
+        due(2, x.status(1));
+        due(5, x.stoneOf(1));
         faults();
         skiesWithoutRoom();
         // The longest SKY: 250 bytes.
